@@ -107,14 +107,17 @@ public final class MovieBoxes {
     }
 
     public int check() {
-        return faultNow();
+        look();
+        return fault;
     }
 
     public int boxes() {
+        look();
         return boxesAreKnown() ? layout.size() : NONE;
     }
 
     public int box(int k, int what) {
+        look();
         if (!boxesAreKnown() || what < 0 || what > Layout.HOLDER) {
             return NONE;
         }
@@ -122,15 +125,18 @@ public final class MovieBoxes {
     }
 
     public int tracks() {
-        return faultNow() == NO_FAULT ? trackCount : NONE;
+        look();
+        return fault == NO_FAULT ? trackCount : NONE;
     }
 
     public int samples(int track) {
+        look();
         Track found = soundTrack(track);
         return found == null ? NONE : found.sampleCount();
     }
 
     public int sample(int track, int k, int what) {
+        look();
         Track found = soundTrack(track);
         if (found == null || what < 0 || what > Track.DESCRIPTION) {
             return NONE;
@@ -139,6 +145,7 @@ public final class MovieBoxes {
     }
 
     public int shown(int track, int t) {
+        look();
         Track found = soundTrack(track);
         if (found == null || t < 0) {
             return NONE;
@@ -147,7 +154,8 @@ public final class MovieBoxes {
     }
 
     public int fastStart() {
-        if (faultNow() != NO_FAULT) {
+        look();
+        if (fault != NO_FAULT) {
             return BAD;
         }
         int movie = layout.find(Layout.TOP, MOVIE);
@@ -160,41 +168,35 @@ public final class MovieBoxes {
         return answer;
     }
 
-    private int faultNow() {
-        if (stale) {
-            fault = readAll();
-            stale = false;
+    /** Reads the file if it has changed since the last look. */
+    private void look() {
+        if (!stale) {
+            return;
         }
-        return fault;
+        stale = false;
+        trackCount = 0;
+        fault = layout.read();
+        if (fault == NO_FAULT && !layout.kindsHold()) {
+            fault = FAULT_KINDS;
+        }
+        if (fault == NO_FAULT) {
+            bindTracks();
+            fault = tableFault();
+        }
+        for (int i = 0; i < trackCount && fault == NO_FAULT; i++) {
+            trackRow[i].spread();
+        }
     }
 
     private boolean boxesAreKnown() {
-        int now = faultNow();
-        return now != FAULT_NESTING && now != FAULT_MANY;
+        return fault != FAULT_NESTING && fault != FAULT_MANY;
     }
 
     private Track soundTrack(int track) {
-        if (faultNow() != NO_FAULT || track < 0 || track >= trackCount) {
+        if (fault != NO_FAULT || track < 0 || track >= trackCount) {
             return null;
         }
         return trackRow[track];
-    }
-
-    private int readAll() {
-        trackCount = 0;
-        int nesting = layout.read();
-        if (nesting != NO_FAULT) {
-            return nesting;
-        }
-        if (!layout.kindsHold()) {
-            return FAULT_KINDS;
-        }
-        bindTracks();
-        int worst = tableFault();
-        if (worst == NO_FAULT) {
-            spreadSamples();
-        }
-        return worst;
     }
 
     private void bindTracks() {
@@ -226,12 +228,6 @@ public final class MovieBoxes {
         return NO_FAULT;
     }
 
-    private void spreadSamples() {
-        for (int i = 0; i < trackCount; i++) {
-            trackRow[i].spread();
-        }
-    }
-
     /** A row of at most 1000 bytes. */
     private static final class Bytes {
         private final int[] cells;
@@ -251,11 +247,12 @@ public final class MovieBoxes {
         }
 
         int at(int p) {
-            return has(p) ? cells[p] : NONE;
+            return p >= 0 && p < count ? cells[p] : NONE;
         }
 
+        /** The number of two bytes at a place. */
         int pairAt(int p) {
-            return at(p) * 256 + at(p + 1);
+            return p >= 0 && p < count - 1 ? cells[p] * 256 + cells[p + 1] : NONE;
         }
 
         void put(int p, int b) {
@@ -332,15 +329,15 @@ public final class MovieBoxes {
         }
 
         int endOf(int k) {
-            return of(k, PLACE) + of(k, SIZE);
+            return k >= 0 && k < count ? columns[PLACE][k] + columns[SIZE][k] : NONE;
         }
 
         int payloadOf(int k) {
-            return of(k, PLACE) + of(k, HEADER);
+            return k >= 0 && k < count ? columns[PLACE][k] + columns[HEADER][k] : NONE;
         }
 
         int payloadSizeOf(int k) {
-            return of(k, SIZE) - of(k, HEADER);
+            return k >= 0 && k < count ? columns[SIZE][k] - columns[HEADER][k] : NONE;
         }
 
         boolean holdsBoxes(int k) {
@@ -502,7 +499,9 @@ public final class MovieBoxes {
          */
         int dataAround(int place) {
             for (int k = 0; k < count; k++) {
-                if (columns[KIND][k] == DATA && payloadOf(k) <= place && place <= endOf(k)) {
+                int from = columns[PLACE][k] + columns[HEADER][k];
+                int to = columns[PLACE][k] + columns[SIZE][k];
+                if (columns[KIND][k] == DATA && from <= place && place <= to) {
                     return k;
                 }
             }
@@ -517,6 +516,7 @@ public final class MovieBoxes {
         private int start;
         private int payload;
         private int width;
+        private int rows;
 
         Table(Bytes file) {
             this.file = file;
@@ -524,6 +524,7 @@ public final class MovieBoxes {
             start = 0;
             payload = 0;
             width = 0;
+            rows = 0;
         }
 
         void bind(Layout layout, int box, int rowWidth) {
@@ -531,6 +532,7 @@ public final class MovieBoxes {
             start = present ? layout.payloadOf(box) : 0;
             payload = present ? layout.payloadSizeOf(box) : 0;
             width = rowWidth;
+            rows = payload >= 1 ? file.at(start) : 0;
         }
 
         boolean isPresent() {
@@ -538,11 +540,11 @@ public final class MovieBoxes {
         }
 
         boolean lengthHolds() {
-            return !present || payload >= 1 && payload == 1 + rows() * width;
+            return !present || payload >= 1 && payload == 1 + rows * width;
         }
 
         int rows() {
-            return present ? file.at(start) : 0;
+            return rows;
         }
 
         int value(int row, int column) {
@@ -556,7 +558,7 @@ public final class MovieBoxes {
 
         int totalOfCounts() {
             int total = 0;
-            for (int row = 0; row < rows(); row++) {
+            for (int row = 0; row < rows; row++) {
                 total += value(row, 0);
             }
             return total;
@@ -564,7 +566,7 @@ public final class MovieBoxes {
 
         /** Whether the first numbers of the rows grow from row to row. */
         boolean grows() {
-            for (int row = 1; row < rows(); row++) {
+            for (int row = 1; row < rows; row++) {
                 if (value(row, 0) <= value(row - 1, 0)) {
                     return false;
                 }
@@ -578,32 +580,34 @@ public final class MovieBoxes {
         private final Bytes file;
         private int start;
         private int payload;
+        private int fixed;
+        private int count;
 
         SizeTable(Bytes file) {
             this.file = file;
             start = 0;
             payload = 0;
+            fixed = 0;
+            count = 0;
         }
 
         void bind(Layout layout, int box) {
             start = layout.payloadOf(box);
             payload = layout.payloadSizeOf(box);
-        }
-
-        private int fixed() {
-            return file.at(start);
+            fixed = payload >= 2 ? file.at(start) : 0;
+            count = payload >= 2 ? file.at(start + 1) : 0;
         }
 
         int count() {
-            return file.at(start + 1);
+            return count;
         }
 
         boolean lengthHolds() {
-            return payload >= 2 && payload == 2 + (fixed() == 0 ? count() : 0);
+            return payload >= 2 && payload == 2 + (fixed == 0 ? count : 0);
         }
 
         int sizeOf(int k) {
-            return fixed() == 0 ? file.at(start + 2 + k) : fixed();
+            return fixed == 0 ? file.at(start + 2 + k) : fixed;
         }
     }
 
@@ -669,24 +673,20 @@ public final class MovieBoxes {
                 && places.lengthHolds()
                 && syncs.lengthHolds()
                 && edits.lengthHolds()
-                && chunkRowsHold()
-                && syncRowsHold();
+                && (chunks.rows() == 0 || chunks.value(0, 0) == 1)
+                && chunks.grows()
+                && everyChunkRowHasSamples()
+                && (syncs.rows() == 0 || syncs.value(0, 0) != 0)
+                && syncs.grows();
         }
 
-        private boolean chunkRowsHold() {
-            if (chunks.rows() > 0 && chunks.value(0, 0) != 1) {
-                return false;
-            }
+        private boolean everyChunkRowHasSamples() {
             for (int row = 0; row < chunks.rows(); row++) {
                 if (chunks.value(row, 1) == 0) {
                     return false;
                 }
             }
-            return chunks.grows();
-        }
-
-        private boolean syncRowsHold() {
-            return (syncs.rows() == 0 || syncs.value(0, 0) != 0) && syncs.grows();
+            return true;
         }
 
         boolean countsHold() {
