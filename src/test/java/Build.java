@@ -62,6 +62,20 @@ final class Build {
         return join(bytes(1, type, size / 256, size % 256), all);
     }
 
+    /** A box with the shortest header that its length allows. */
+    static int[] fit(int type, int[]... payload) {
+        return join(payload).length + 2 > 255 ? longBox(type, payload) : box(type, payload);
+    }
+
+    /** n boxes of two bytes. */
+    static int[] empties(int n) {
+        int[] all = new int[0];
+        for (int i = 0; i < n; i++) {
+            all = join(all, bytes(2, FREE));
+        }
+        return all;
+    }
+
     static int[] openBox(int type, int[]... payload) {
         return join(bytes(0, type), join(payload));
     }
@@ -78,6 +92,9 @@ final class Build {
     static MovieBoxes file(int[]... parts) {
         MovieBoxes x = new MovieBoxes();
         int[] all = join(parts);
+        if (all.length > 1000) {
+            throw new IllegalArgumentException("a test asks for a file of " + all.length + " bytes");
+        }
         int p = 0;
         while (p < all.length) {
             long word = 0;

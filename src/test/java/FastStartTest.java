@@ -36,31 +36,21 @@ public final class FastStartTest {
         return Build.box(Build.DATA, Build.counting(n));
     }
 
-    /** Moves, and compares the answer and the whole file. */
-    private static void moved(String what, MovieBoxes x, int want, int[]... parts) {
-        due.is(what + ": check() before", x.check(), 0);
-        due.is(what + ": fastStart()", x.fastStart(), want);
-        due.fileIs(what, x, parts);
-        due.is(what + ": check() after", x.check(), 0);
-        due.is(what + ": fastStart() again", x.fastStart(), want);
-        due.fileIs(what + " again", x, parts);
-    }
-
     private static void plainMove() {
         MovieBoxes x = Build.file(data(3), movie(2));
-        moved("plain", x, 23, movie(25), data(3));
+        due.moved("plain", x, 23, movie(25), data(3));
         due.is("sample(0, 1, 0)", x.sample(0, 1, 0), 26);
         due.is("box(6, 2)", x.box(6, 2), Build.DATA);
     }
 
     private static void nothingToMove() {
         int[] free = Build.box(Build.FREE, THREE);
-        moved("the movie is first", Build.file(movie(25), data(3)), 23, movie(25), data(3));
-        moved("a box between", Build.file(movie(30), free, data(3)), 23, movie(30), free, data(3));
+        due.moved("the movie is first", Build.file(movie(25), data(3)), 23, movie(25), data(3));
+        due.moved("a box between", Build.file(movie(30), free, data(3)), 23, movie(30), free, data(3));
         int[] empty = Build.box(Build.TRACK, Build.table(Build.DURATIONS, 0), Build.table(Build.CHUNKS, 0),
             Build.table(Build.SIZES, 0, 0), Build.table(Build.PLACES, 0));
-        moved("no data", Build.file(free, Build.box(Build.MOVIE, empty)), 17, free, Build.box(Build.MOVIE, empty));
-        moved("no data, open", Build.file(free, Build.openBox(Build.MOVIE, empty)), 17, free, Build.openBox(Build.MOVIE, empty));
+        due.moved("no data", Build.file(free, Build.box(Build.MOVIE, empty)), 17, free, Build.box(Build.MOVIE, empty));
+        due.moved("no data, open", Build.file(free, Build.openBox(Build.MOVIE, empty)), 17, free, Build.openBox(Build.MOVIE, empty));
     }
 
     private static void otherBoxesKeepTheirOrder() {
@@ -69,15 +59,15 @@ public final class FastStartTest {
         int[] c = Build.box(Build.TRACK, Build.bytes(67));
         int[] first = Build.longBox(Build.DATA, THREE);
         int[] second = Build.box(Build.DATA, Build.bytes(9));
-        moved("among others", Build.file(a, first, b, second, movie(7), c), 23, a, movie(30), first, b, second, c);
+        due.moved("among others", Build.file(a, first, b, second, movie(7), c), 23, a, movie(30), first, b, second, c);
     }
 
     private static void dataBehindTheMovie() {
         int[] second = Build.box(Build.DATA, Build.bytes(4, 5, 6));
         MovieBoxes x = Build.file(data(3), Build.box(Build.MOVIE, Build.plainTrack(2), Build.plainTrack(51)), second);
-        moved("data behind", x, 44, Build.box(Build.MOVIE, Build.plainTrack(46), Build.plainTrack(51)), data(3), second);
+        due.moved("data behind", x, 44, Build.box(Build.MOVIE, Build.plainTrack(46), Build.plainTrack(51)), data(3), second);
         due.is("sample(1, 0, 0)", x.sample(1, 0, 0), 51);
-        moved("data behind a movie that grows by one",
+        due.moved("data behind a movie that grows by one",
             Build.file(data(230), Build.box(Build.MOVIE, Build.plainTrack(229), wideTrack(279)), second), 46,
             Build.box(Build.MOVIE, wideTrack(229 + 46), wideTrack(280)), data(230), second);
     }
@@ -89,35 +79,35 @@ public final class FastStartTest {
 
     private static void emptyChunkBesideTheMovie() {
         int[] behind = Build.box(Build.DATA);
-        moved("a chunk at the end of the data before", Build.file(data(1), emptyChunk(3), behind), 24, emptyChunk(27), data(1), behind);
-        moved("a chunk at the start of the data behind", Build.file(data(1), emptyChunk(29), behind), 24, emptyChunk(29), data(1), behind);
+        due.moved("a chunk at the end of the data before", Build.file(data(1), emptyChunk(3), behind), 24, emptyChunk(27), data(1), behind);
+        due.moved("a chunk at the start of the data behind", Build.file(data(1), emptyChunk(29), behind), 24, emptyChunk(29), data(1), behind);
     }
 
     private static void edgeOfOneByte() {
-        moved("a place becomes 255", Build.file(data(240), movie(232)), 23, movie(255), data(240));
-        moved("a place becomes more", Build.file(data(240), movie(233)), 24, Build.box(Build.MOVIE, wideTrack(257)), data(240));
+        due.moved("a place becomes 255", Build.file(data(240), movie(232)), 23, movie(255), data(240));
+        due.moved("a place becomes more", Build.file(data(240), movie(233)), 24, Build.box(Build.MOVIE, wideTrack(257)), data(240));
     }
 
     private static void twoTablesBecomeWide() {
-        moved("the second for the first's sake",
+        due.moved("the second for the first's sake",
             Build.file(data(250), Build.box(Build.MOVIE, Build.plainTrack(240), Build.plainTrack(211))), 46,
             Build.box(Build.MOVIE, wideTrack(286), wideTrack(257)), data(250));
-        moved("the first for the second's sake",
+        due.moved("the first for the second's sake",
             Build.file(data(250), Build.box(Build.MOVIE, Build.plainTrack(211), Build.plainTrack(240))), 46,
             Build.box(Build.MOVIE, wideTrack(257), wideTrack(286)), data(250));
-        moved("the first alone",
+        due.moved("the first alone",
             Build.file(data(250), Build.box(Build.MOVIE, Build.plainTrack(240), Build.plainTrack(210))), 45,
             Build.box(Build.MOVIE, wideTrack(285), Build.plainTrack(255)), data(250));
-        moved("the second alone",
+        due.moved("the second alone",
             Build.file(data(250), Build.box(Build.MOVIE, Build.plainTrack(210), Build.plainTrack(240))), 45,
             Build.box(Build.MOVIE, Build.plainTrack(255), wideTrack(285)), data(250));
-        moved("none",
+        due.moved("none",
             Build.file(data(250), Build.box(Build.MOVIE, Build.plainTrack(211), Build.plainTrack(211))), 44,
             Build.box(Build.MOVIE, Build.plainTrack(255), Build.plainTrack(255)), data(250));
     }
 
     private static void wideStaysWide() {
-        moved("wide", Build.file(data(3), Build.box(Build.MOVIE, wideTrack(2))), 24, Build.box(Build.MOVIE, wideTrack(26)), data(3));
+        due.moved("wide", Build.file(data(3), Build.box(Build.MOVIE, wideTrack(2))), 24, Build.box(Build.MOVIE, wideTrack(26)), data(3));
     }
 
     /** What a track with n chunks of one byte each, all at one place, has before its table of places. */
@@ -141,22 +131,22 @@ public final class FastStartTest {
         // 130 wide rows do not fit into a short box any more, nor does what holds them.
         MovieBoxes x = Build.file(data(210),
             Build.box(Build.MOVIE, Build.box(Build.TRACK, before(130), Build.box(Build.PLACES, narrowRows(130, 200)))));
-        moved("a table grows", x, 288,
+        due.moved("a table grows", x, 288,
             Build.longBox(Build.MOVIE, Build.longBox(Build.TRACK, before(130), Build.longBox(Build.WIDE, wideRows(130, 488)))), data(210));
         // 126 rows are the most that a short box can hold: 2 + 1 + 252 = 255.
         MovieBoxes y = Build.file(data(210),
             Build.box(Build.MOVIE, Build.box(Build.TRACK, before(126), Build.box(Build.PLACES, narrowRows(126, 200)))));
-        moved("a table just fits", y, 278,
+        due.moved("a table just fits", y, 278,
             Build.longBox(Build.MOVIE, Build.longBox(Build.TRACK, before(126), Build.box(Build.WIDE, wideRows(126, 478)))), data(210));
     }
 
     private static void trackAndMovieHeadersGrow() {
         // Without the free box the track has 220 bytes when its 100 places are wide.
-        moved("neither grows", withFree(33), 255,
+        due.moved("neither grows", withFree(33), 255,
             Build.box(Build.MOVIE, Build.box(Build.TRACK, before(100), Build.box(Build.WIDE, wideRows(100, 455)), free(33))), data(210));
-        moved("the movie grows", withFree(35), 259,
+        due.moved("the movie grows", withFree(35), 259,
             Build.longBox(Build.MOVIE, Build.box(Build.TRACK, before(100), Build.box(Build.WIDE, wideRows(100, 459)), free(35))), data(210));
-        moved("both grow", withFree(36), 262,
+        due.moved("both grow", withFree(36), 262,
             Build.longBox(Build.MOVIE, Build.longBox(Build.TRACK, before(100), Build.box(Build.WIDE, wideRows(100, 462)), free(36))), data(210));
     }
 
@@ -176,33 +166,33 @@ public final class FastStartTest {
     }
 
     private static void longHeadersStay() {
-        moved("long headers", Build.file(data(3), longMovie(Build.PLACES, 1, 2)), 39, longMovie(Build.PLACES, 1, 41), data(3));
-        moved("long headers of what grows", Build.file(data(240), longMovie(Build.PLACES, 1, 230)), 40,
+        due.moved("long headers", Build.file(data(3), longMovie(Build.PLACES, 1, 2)), 39, longMovie(Build.PLACES, 1, 41), data(3));
+        due.moved("long headers of what grows", Build.file(data(240), longMovie(Build.PLACES, 1, 230)), 40,
             longMovie(Build.WIDE, 1, 1, 14), data(240));
     }
 
     private static void openMovie() {
-        moved("open", Build.file(data(3), Build.openBox(Build.MOVIE, Build.plainTrack(2))), 23, movie(25), data(3));
-        moved("open, 255 long", Build.file(data(3), Build.openBox(Build.MOVIE, wideTrack(2), free(231))), 255,
+        due.moved("open", Build.file(data(3), Build.openBox(Build.MOVIE, Build.plainTrack(2))), 23, movie(25), data(3));
+        due.moved("open, 255 long", Build.file(data(3), Build.openBox(Build.MOVIE, wideTrack(2), free(231))), 255,
             Build.box(Build.MOVIE, wideTrack(257), free(231)), data(3));
-        moved("open, longer", Build.file(data(3), Build.openBox(Build.MOVIE, wideTrack(2), free(232))), 258,
+        due.moved("open, longer", Build.file(data(3), Build.openBox(Build.MOVIE, wideTrack(2), free(232))), 258,
             Build.longBox(Build.MOVIE, wideTrack(260), free(232)), data(3));
-        moved("open, longer for a wide table", Build.file(data(3), Build.openBox(Build.MOVIE, Build.plainTrack(2), free(232))), 258,
+        due.moved("open, longer for a wide table", Build.file(data(3), Build.openBox(Build.MOVIE, Build.plainTrack(2), free(232))), 258,
             Build.longBox(Build.MOVIE, wideTrack(260), free(232)), data(3));
     }
 
     private static void openBoxStaysLast() {
         int[] rest = Build.openBox(Build.FREE, Build.counting(9));
-        moved("an open box", Build.file(data(3), movie(2), rest), 23, movie(25), data(3), rest);
+        due.moved("an open box", Build.file(data(3), movie(2), rest), 23, movie(25), data(3), rest);
         int[] last = Build.openBox(Build.DATA, Build.counting(9));
-        moved("an open data box", Build.file(data(3), movie(30), last), 23, movie(30), data(3), last);
+        due.moved("an open data box", Build.file(data(3), movie(30), last), 23, movie(30), data(3), last);
     }
 
     private static void otherBytesOfTheMovieStay() {
         int[] inTrack = Build.join(Build.table(Build.EDITS, 1, 5, 255), Build.box(Build.DATA, Build.bytes(2, 2)),
             Build.table(Build.SYNCS, 1, 2), Build.box(Build.TRACK, Build.plainTables(2)));
         int[] inMovie = Build.join(Build.box(Build.PLACES, Build.bytes(1, 2)), Build.longBox(Build.MOVIE, Build.plainTrack(2)));
-        moved("others in the movie",
+        due.moved("others in the movie",
             Build.file(data(3), Build.box(Build.MOVIE, inMovie, Build.box(Build.TRACK, inTrack, Build.plainTables(2)))), 86,
             Build.box(Build.MOVIE, inMovie, Build.box(Build.TRACK, inTrack, Build.plainTables(88))), data(3));
     }
@@ -218,8 +208,8 @@ public final class FastStartTest {
         due.fileIs("full", x, data(240), movie(233), filler(735));
         due.is("check()", x.check(), 0);
         due.is("sample(0, 0, 0)", x.sample(0, 0, 0), 233);
-        moved("1000 that do not grow", Build.file(data(240), movie(232), filler(735)), 23, movie(255), data(240), filler(735));
-        moved("up to 1000", Build.file(data(240), movie(233), filler(734)), 24,
+        due.moved("1000 that do not grow", Build.file(data(240), movie(232), filler(735)), 23, movie(255), data(240), filler(735));
+        due.moved("up to 1000", Build.file(data(240), movie(233), filler(734)), 24,
             Build.box(Build.MOVIE, wideTrack(257)), data(240), filler(734));
     }
 

@@ -60,29 +60,21 @@ public final class FaultsTest {
         fault("nothing is read in a table's box at the top", 3, Build.box(Build.SIZES, Build.bytes(0)));
     }
 
-    private static int[] empties(int n) {
-        int[] all = new int[0];
-        for (int i = 0; i < n; i++) {
-            all = Build.join(all, Build.bytes(2, 32));
-        }
-        return all;
-    }
-
     private static void many() {
-        fault("20 boxes", 3, empties(20));
-        fault("21 boxes", 2, empties(21));
-        fault("a byte behind 20 boxes", 2, empties(20), Build.bytes(7));
-        fault("a bad box behind 20 boxes", 2, empties(20), Build.bytes(1, 1, 0, 0));
-        fault("the 20th is bad", 1, empties(19), Build.bytes(7));
-        fault("a movie with 19", 3, Build.box(Build.MOVIE, empties(19)));
-        fault("a movie with 20", 2, Build.box(Build.MOVIE, empties(20)));
-        fault("the 20th is an empty movie", 3, empties(19), Build.bytes(2, 77));
-        fault("the 20th is a movie with a byte", 2, empties(19), Build.bytes(3, 77, 9));
-        fault("a bad box before the 21st", 1, Build.bytes(2, 32), Build.box(Build.MOVIE, Build.bytes(9)), empties(25));
+        fault("20 boxes", 3, Build.empties(20));
+        fault("21 boxes", 2, Build.empties(21));
+        fault("a byte behind 20 boxes", 2, Build.empties(20), Build.bytes(7));
+        fault("a bad box behind 20 boxes", 2, Build.empties(20), Build.bytes(1, 1, 0, 0));
+        fault("the 20th is bad", 1, Build.empties(19), Build.bytes(7));
+        fault("a movie with 19", 3, Build.box(Build.MOVIE, Build.empties(19)));
+        fault("a movie with 20", 2, Build.box(Build.MOVIE, Build.empties(20)));
+        fault("the 20th is an empty movie", 3, Build.empties(19), Build.bytes(2, 77));
+        fault("the 20th is a movie with a byte", 2, Build.empties(19), Build.bytes(3, 77, 9));
+        fault("a bad box before the 21st", 1, Build.bytes(2, 32), Build.box(Build.MOVIE, Build.bytes(9)), Build.empties(25));
         fault("a good file of 20 boxes", 0, Build.box(Build.MOVIE, Build.plainTrack(25)), Build.box(Build.DATA, Build.same(5, 1)),
-            empties(13));
+            Build.empties(13));
         fault("a good file and one more", 2, Build.box(Build.MOVIE, Build.plainTrack(25)),
-            Build.box(Build.DATA, Build.same(5, 1)), empties(14));
+            Build.box(Build.DATA, Build.same(5, 1)), Build.empties(14));
     }
 
     private static final int[] MEDIA = Build.box(Build.DATA, Build.same(8, 1));
