@@ -12,6 +12,11 @@ final class Due {
         askedBefore = asked;
     }
 
+    /** One of several cases of a sentence. */
+    void sentence(String text, String part) {
+        sentence(text + " [" + part + "]");
+    }
+
     // A sentence without an answer would pass whatever the class did.
     private void endSentence() {
         if (!sentence.isEmpty() && asked == askedBefore) {

@@ -8,6 +8,7 @@ public final class SentencesFastStartTest {
         othersKeepOrderAndBytes();
         placesOfAllChunks();
         chunksBesideTheMovie();
+        oneObjectMovesTwice();
         theSameBytes();
         becomesWide();
         wideStaysWide();
@@ -74,7 +75,8 @@ public final class SentencesFastStartTest {
     }
 
     private static void placesOfAllChunks() {
-        due.sentence("In the MOVIE the places of all chunks become where the same bytes lie then (a chunk moves as the DATA box in which it lies)");
+        due.sentence("In the MOVIE the places of all chunks become where the same bytes lie then (a chunk moves as the DATA "
+            + "box in which it lies)");
         Tables three = Tables.plain().with(Build.CHUNKS, 1, 1, 1, 7);
         due.moved("all rows", Build.file(data(9), three.with(Build.PLACES, 3, 2, 10, 5).movie()), 25,
             three.with(Build.PLACES, 3, 27, 35, 30).movie(), data(9));
@@ -88,7 +90,7 @@ public final class SentencesFastStartTest {
     }
 
     private static void chunksBesideTheMovie() {
-        due.sentence("(a chunk moves as the DATA box in which it lies): a chunk without bytes");
+        due.sentence("(a chunk moves as the DATA box in which it lies)", "a chunk without bytes");
         Tables bare = Tables.bare(1, 1);
         due.moved("at the end of the data before the movie", Build.file(data(3), bare.with(Build.PLACES, 1, 5).movie(), data(3)), 24,
             bare.with(Build.PLACES, 1, 29).movie(), data(3), data(3));
@@ -100,6 +102,27 @@ public final class SentencesFastStartTest {
             bare.with(Build.PLACES, 1, 29).movie(), data(3), data(3));
         due.moved("in data without bytes", Build.file(data(0), bare.with(Build.PLACES, 1, 2).movie()), 24,
             bare.with(Build.PLACES, 1, 26).movie(), data(0));
+    }
+
+    private static MovieBoxes refilled(MovieBoxes x, int[]... parts) {
+        x.cut(0);
+        for (int b : Build.join(parts)) {
+            x.append(b, 1);
+        }
+        return x;
+    }
+
+    private static void oneObjectMovesTwice() {
+        due.sentence("Moves the MOVIE to directly before the first DATA box", "a second time, another file");
+        MovieBoxes x = Build.file(data(250), movie(track(240), track(240)));
+        due.is("fastStart()", x.fastStart(), 46);
+        due.moved("tables that stay narrow", refilled(x, data(3), movie(track(2), track(2))), 44, movie(track(46), track(46)), data(3));
+        due.moved("one that becomes wide", refilled(x, data(250), movie(track(240), track(2))), 45,
+            movie(wideTrack(285), track(47)), data(250));
+        due.is("a third that is refused", refilled(x, data(250), movie(track(240)), filler(725)).fastStart(), MovieBoxes.FULL);
+        x.poke(274, 2);
+        due.is("check()", x.check(), 0);
+        due.moved("once it needs no more room", x, 23, movie(track(25)), data(250), filler(725));
     }
 
     private static void theSameBytes() {
@@ -122,6 +145,8 @@ public final class SentencesFastStartTest {
         due.moved("254", Build.file(data(250), movie(track(231))), 23, movie(track(254)), data(250));
         due.moved("255", Build.file(data(250), movie(track(232))), 23, movie(track(255)), data(250));
         due.moved("256 and then 257", Build.file(data(250), movie(track(233))), 24, movie(wideTrack(257)), data(250));
+        due.moved("no place but a byte behind the table", Build.file(data(3), movie(track(2), filler(120))), 143,
+            movie(track(145), filler(120)), data(3));
         due.moved("the greatest", Build.file(data(253), movie(track(252))), 24, movie(wideTrack(276)), data(253));
         MovieBoxes x = Build.file(data(250), movie(track(233)));
         x.fastStart();
@@ -132,8 +157,10 @@ public final class SentencesFastStartTest {
             three.with(Build.WIDE, 3, 1, 12, 0, 30, 0, 31).movie(), data(250));
         due.moved("for the last row alone", Build.file(data(250), three.with(Build.PLACES, 3, 2, 3, 240).movie()), 28,
             three.with(Build.WIDE, 3, 0, 30, 0, 31, 1, 12).movie(), data(250));
-        due.moved("the first table alone", Build.file(data(250), movie(track(240), track(2))), 45, movie(wideTrack(285), track(47)), data(250));
-        due.moved("the second table alone", Build.file(data(250), movie(track(2), track(240))), 45, movie(track(47), wideTrack(285)), data(250));
+        due.moved("the first table alone", Build.file(data(250), movie(track(240), track(2))), 45,
+            movie(wideTrack(285), track(47)), data(250));
+        due.moved("the second table alone", Build.file(data(250), movie(track(2), track(240))), 45,
+            movie(track(47), wideTrack(285)), data(250));
         due.moved("a table of no rows", Build.file(data(250), movie(Tables.ofNothing().track(), track(240))), 39,
             movie(Tables.ofNothing().track(), wideTrack(279)), data(250));
     }
@@ -183,7 +210,7 @@ public final class SentencesFastStartTest {
     }
 
     private static void tableHeaderGrows() {
-        due.sentence("a header of two bytes becomes one of four where the box would be longer than 255 with it: a table");
+        due.sentence("a header of two bytes becomes one of four where the box would be longer than 255 with it", "a table");
         // 126 wide rows make a table of 255 bytes, 127 one of 257, and of 259 with the longer header.
         due.moved("255", Build.file(data(210), chunks(126, 200).movie()), 278, wideChunks(126, 478).movie(), data(210));
         MovieBoxes just = Build.file(data(210), chunks(126, 200).movie());
@@ -206,7 +233,7 @@ public final class SentencesFastStartTest {
     }
 
     private static void trackHeaderGrows() {
-        due.sentence("a header of two bytes becomes one of four where the box would be longer than 255 with it: a TRACK");
+        due.sentence("a header of two bytes becomes one of four where the box would be longer than 255 with it", "a TRACK");
         int[] places = Build.bytes(1, 2);
         Tables narrow = Tables.plain().with(Build.PLACES, places);
         Tables wide = Tables.plain().with(Build.WIDE, 1, 1, 5);
@@ -228,7 +255,7 @@ public final class SentencesFastStartTest {
     }
 
     private static void movieHeaderGrows() {
-        due.sentence("a header of two bytes becomes one of four where the box would be longer than 255 with it: the MOVIE");
+        due.sentence("a header of two bytes becomes one of four where the box would be longer than 255 with it", "the MOVIE");
         due.moved("from 254 to 255", Build.file(data(3), movie(track(2), filler(231))), 255, movie(wideTrack(257), filler(231)), data(3));
         due.moved("from 255 to 256 and then 258", Build.file(data(3), movie(track(2), filler(232))), 258,
             movie(wideTrack(260), filler(232)), data(3));
@@ -287,7 +314,8 @@ public final class SentencesFastStartTest {
             movie(wideChunks(10, 304).track(), wideTrack(257)), data(250));
         due.moved("data behind the movie", Build.file(data(240), movie(track(233), wideTrack(289)), data(3)), 46,
             movie(wideTrack(279), wideTrack(290)), data(240), data(3));
-        due.moved("data behind a movie with a longer header", Build.file(data(3), movie(track(2), wideTrack(262), filler(210)), data(3)), 258,
+        due.moved("data behind a movie with a longer header",
+            Build.file(data(3), movie(track(2), wideTrack(262), filler(210)), data(3)), 258,
             movie(wideTrack(260), wideTrack(265), filler(210)), data(3), data(3));
     }
 

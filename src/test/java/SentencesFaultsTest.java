@@ -37,7 +37,8 @@ public final class SentencesFaultsTest {
     }
 
     private static void readInOrder() {
-        due.sentence("The boxes are read in the order of their numbers (what a MOVIE or TRACK holds directly after that box's header, "
+        due.sentence("The boxes are read in the order of their numbers (what a MOVIE or TRACK holds directly after that "
+            + "box's header, "
             + "before what comes behind it).");
         int[] bad = Build.bytes(9);
         fault("a bad box in the movie, 25 behind it", 1, inMovie(bad), Build.empties(25));
@@ -51,7 +52,8 @@ public final class SentencesFaultsTest {
     }
 
     private static void twentyBoxes() {
-        due.sentence("Where bytes of a row of boxes are left: if 20 boxes have been read already, the reading ends with the fault 2 (MANY)");
+        due.sentence("Where bytes of a row of boxes are left: if 20 boxes have been read already, the reading ends with the "
+            + "fault 2 (MANY)");
         fault("20", 3, Build.empties(20));
         fault("21", 2, Build.empties(21));
         fault("20 and a byte", 2, Build.empties(20), Build.bytes(0));
@@ -239,7 +241,8 @@ public final class SentencesFaultsTest {
     }
 
     private static void chunkLiesInData() {
-        due.sentence("6 DATA: a chunk does not lie in a DATA box: there is no DATA box with a payload of l bytes from place b on for which "
+        due.sentence("6 DATA: a chunk does not lie in a DATA box: there is no DATA box with a payload of l bytes from place "
+            + "b on for which "
             + "b <= the chunk's place, and that place plus the sizes of the chunk's samples together <= b + l");
         for (int place = 0; place < 40; place++) {
             due.is("three bytes at " + place, checkAt(place), place >= 2 && place <= 7 ? 0 : 6);

@@ -92,7 +92,8 @@ public final class SentencesFileTest {
     }
 
     private static void sizeByteFrom2On() {
-        due.sentence("n from 2 on: its HEADER is these two bytes, and the box is n bytes long, the header included");
+        due.sentence("A BOX begins with a size byte n and a type byte. n from 2 on: its HEADER is these two bytes, and the "
+            + "box is n bytes long, the header included");
         for (int n = 2; n < 256; n++) {
             MovieBoxes x = Build.file(Build.bytes(n, 32), Build.same(n - 2, 9), Build.bytes(2, 33));
             due.is("boxes() with n = " + n, x.boxes(), 2);
@@ -158,7 +159,8 @@ public final class SentencesFileTest {
     }
 
     private static void rowOfBoxes() {
-        due.sentence("The file is a row of boxes, one behind the other, from its first byte to its end (the empty file is a row of none)");
+        due.sentence("The file is a row of boxes, one behind the other, from its first byte to its end (the empty file is a "
+            + "row of none)");
         due.is("boxes() of the empty file", new MovieBoxes().boxes(), 0);
         MovieBoxes x = Build.file(Build.bytes(2, 1), Build.bytes(3, 2, 0), Build.bytes(1, 3, 0, 5, 0), Build.bytes(0, 4, 0));
         due.is("boxes() of four", x.boxes(), 4);

@@ -88,7 +88,7 @@ public final class SentencesKindsTest {
     }
 
     private static void otherAtTheTop() {
-        due.sentence("Every other type, and any of these at another place, is OTHER: at the top level");
+        due.sentence("Every other type, and any of these at another place, is OTHER", "at the top level");
         for (int type = 0; type < 256; type++) {
             if (type != Build.MOVIE) {
                 MovieBoxes x = Tables.plain().file(Build.box(type, Build.bytes(7)));
@@ -99,7 +99,7 @@ public final class SentencesKindsTest {
     }
 
     private static void otherInAMovie() {
-        due.sentence("Every other type, and any of these at another place, is OTHER: in a MOVIE");
+        due.sentence("Every other type, and any of these at another place, is OTHER", "in a MOVIE");
         for (int type = 0; type < 256; type++) {
             MovieBoxes x = Build.file(MEDIA, Tables.plain().movie(Build.box(type, Build.bytes(7))));
             due.is("check() with type " + type, x.check(), type == Build.TRACK ? 1 : 0);
@@ -110,7 +110,7 @@ public final class SentencesKindsTest {
     }
 
     private static void otherInATrack() {
-        due.sentence("Every other type, and any of these at another place, is OTHER: in a TRACK");
+        due.sentence("Every other type, and any of these at another place, is OTHER", "in a TRACK");
         for (int type = 0; type < 256; type++) {
             int want = isIn(NEEDED, type) ? 3 : isIn(OPTIONAL, type) ? 4 : 0;
             MovieBoxes x = Build.file(MEDIA, Build.box(Build.MOVIE, Tables.plain().track(Build.box(type, Build.bytes(7)))));

@@ -88,7 +88,7 @@ public final class SentencesQuestionsTest {
     }
 
     private static void boxesWithFaults() {
-        due.sentence("NONE if the fault is 1 or 2");
+        due.sentence("NONE if the fault is 1 or 2", "boxes");
         due.is("boxes() with the fault 1", faulty()[0].boxes(), NONE);
         due.is("boxes() with the fault 2", faulty()[1].boxes(), NONE);
         due.is("boxes() of 21", Build.file(Build.empties(21)).boxes(), NONE);
@@ -99,7 +99,8 @@ public final class SentencesQuestionsTest {
     }
 
     private static void whatOfABox() {
-        due.sentence("Of box number k: what = 0 the place of its first byte, 1 its length, 2 its type byte, 3 the length of its header");
+        due.sentence("Of box number k: what = 0 the place of its first byte, 1 its length, 2 its type byte, 3 the length of "
+            + "its header");
         MovieBoxes x = Build.file(Build.bytes(2, 0), Build.longBox(255, Build.same(300, 0)), Build.longBox(128), Build.openBox(127,
             Build.same(400, 0)));
         int[][] want = {{0, 2, 0, 2}, {2, 304, 255, 4}, {306, 4, 128, 4}, {310, 402, 127, 2}};
@@ -158,7 +159,7 @@ public final class SentencesQuestionsTest {
     }
 
     private static void boxWithFaults() {
-        due.sentence("or the fault is 1 or 2");
+        due.sentence("or the fault is 1 or 2", "box");
         MovieBoxes[] files = faulty();
         for (int i = 0; i < files.length; i++) {
             for (int what = 0; what <= 5; what++) {
@@ -180,7 +181,7 @@ public final class SentencesQuestionsTest {
     }
 
     private static void tracksWithFaults() {
-        due.sentence("tracks: NONE if the file has a fault");
+        due.sentence("NONE if the file has a fault", "tracks");
         for (MovieBoxes x : faulty()) {
             due.is("tracks() with the fault " + x.check(), x.tracks(), NONE);
         }
@@ -196,7 +197,7 @@ public final class SentencesQuestionsTest {
     }
 
     private static void samplesWithFaults() {
-        due.sentence("samples: NONE if the file has a fault or there is no such track");
+        due.sentence("NONE if the file has a fault or there is no such track", "samples");
         for (MovieBoxes x : faulty()) {
             due.is("samples(0) with the fault " + x.check(), x.samples(0), NONE);
         }
@@ -223,7 +224,8 @@ public final class SentencesQuestionsTest {
     }
 
     private static void whatOfASample() {
-        due.sentence("1 its size, 2 its decode time, 3 its composition time, 4 whether it is a sync sample (1 or 0), 5 its description");
+        due.sentence("1 its size, 2 its decode time, 3 its composition time, 4 whether it is a sync sample (1 or 0), 5 its "
+            + "description");
         MovieBoxes x = Tables.plain().with(Build.SIZES, 0, 3, 0, 2, 6).with(Build.DURATIONS, 2, 1, 0, 2, 255)
             .with(Build.SHIFTS, 3, 1, 128, 1, 127, 1, 0).with(Build.SYNCS, 1, 3).with(Build.PLACES, 2, 2, 4)
             .with(Build.CHUNKS, 2, 1, 2, 0, 2, 1, 255).file();
@@ -260,7 +262,7 @@ public final class SentencesQuestionsTest {
     }
 
     private static void sampleWithFaults() {
-        due.sentence("sample: NONE if the file has a fault");
+        due.sentence("NONE if the file has a fault", "sample");
         for (MovieBoxes x : faulty()) {
             for (int what = 0; what <= 5; what++) {
                 due.is("sample(0, 0, " + what + ") with the fault " + x.check(), x.sample(0, 0, what), NONE);
@@ -324,7 +326,7 @@ public final class SentencesQuestionsTest {
     }
 
     private static void nothingShown() {
-        due.sentence("shown: NONE if there is none or no media time");
+        due.sentence("NONE if there is none or no media time", "shown");
         MovieBoxes x = Tables.plain().with(Build.EDITS, 3, 1, 255, 1, 30, 1, 29).file();
         shownIs(x, 0, NONE);
         shownIs(x, 1, NONE);

@@ -36,7 +36,7 @@ public final class SentencesRowsTest {
     }
 
     private static void lengthOfSizes() {
-        due.sentence("4 ROWS: the payload of a table is not exactly as long as said above: SIZES");
+        due.sentence("4 ROWS: the payload of a table is not exactly as long as said above", "SIZES");
         fault("three sizes", 0, Build.SIZES, 0, 3, 1, 1, 1);
         fault("two sizes for three", 4, Build.SIZES, 0, 3, 1, 1);
         fault("four sizes for three", 4, Build.SIZES, 0, 3, 1, 1, 1, 1);
@@ -51,7 +51,7 @@ public final class SentencesRowsTest {
     }
 
     private static void lengthOfRows() {
-        due.sentence("4 ROWS: the payload of a table is not exactly as long as said above: every other table");
+        due.sentence("4 ROWS: the payload of a table is not exactly as long as said above", "every other table");
         int[] types = {Build.DURATIONS, Build.SHIFTS, Build.CHUNKS, Build.PLACES, Build.WIDE, Build.SYNCS, Build.EDITS};
         int[][] good = {{1, 3, 10}, {1, 3, 0}, {1, 1, 3, 7}, {1, 2}, {1, 0, 2}, {1, 1}, {1, 5, 5}};
         for (int i = 0; i < types.length; i++) {
@@ -121,6 +121,8 @@ public final class SentencesRowsTest {
         fault("in the first row", 4, threeChunks().with(Build.CHUNKS, 2, 1, 0, 7, 3, 3, 7));
         fault("in the last row", 4, threeChunks().with(Build.CHUNKS, 2, 1, 3, 7, 2, 0, 7));
         fault("in the only row, for no samples", 4, Tables.ofNothing().with(Build.CHUNKS, 1, 1, 0, 7).with(Build.PLACES, 1, 2));
+        int[] last = Tables.plain().without(Build.CHUNKS).track(Build.table(Build.CHUNKS, 1, 1, 3, 7), Build.bytes(4, 0, 0, 0));
+        due.is("zeros behind the table: check()", Build.file(MEDIA, Build.box(Build.MOVIE, last)).check(), 0);
         fault("a many of 1", 0, threeChunks().with(Build.CHUNKS, 1, 1, 1, 7));
         fault("a description of 0", 0, Build.CHUNKS, 1, 1, 3, 0);
     }

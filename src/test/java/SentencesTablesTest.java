@@ -37,7 +37,8 @@ public final class SentencesTablesTest {
     }
 
     private static void sizesOneByOne() {
-        due.sentence("The payload of SIZES is two bytes, FIXED and N, and then, if FIXED is 0, N bytes more, the sizes of samples 0 .. N - 1");
+        due.sentence("The payload of SIZES is two bytes, FIXED and N, and then, if FIXED is 0, N bytes more, the sizes of "
+            + "samples 0 .. N - 1");
         valuesAre(Tables.plain().with(Build.SIZES, 0, 3, 0, 5, 3).file(), 1, 0, 5, 3);
         Tables one = Tables.bare(1, 1).with(Build.PLACES, 1, 4);
         valuesAre(withMuchData(one.with(Build.SIZES, 0, 1, 255)), 1, 255);
@@ -86,7 +87,7 @@ public final class SentencesTablesTest {
     }
 
     private static void mostRows() {
-        due.sentence("one byte, the number of its rows: 255");
+        due.sentence("The payload of every other table is one byte, the number of its rows, and then the rows.", "255 rows");
         MovieBoxes x = Tables.bare(255, 1).with(Build.DURATIONS, rows(255, 1, 2)).file();
         due.is("the last of 255 durations", x.sample(0, 254, 2), 508);
         int[] numbers = Build.bytes(255);
@@ -128,14 +129,16 @@ public final class SentencesTablesTest {
     }
 
     private static void narrowPlaces() {
-        due.sentence("A row of PLACES is one byte: the place of the first byte of a CHUNK");
+        due.sentence("A row of PLACES is one byte, of WIDE PLACES a number of two bytes: the place of the first byte of a "
+            + "CHUNK", "one byte");
         for (int place : new int[] {4, 127, 128, 254, 255}) {
             due.is("the place " + place, withMuchData(Tables.plain().with(Build.PLACES, 1, place)).sample(0, 0, 0), place);
         }
     }
 
     private static void widePlaces() {
-        due.sentence("of WIDE PLACES a number of two bytes: the place of the first byte of a CHUNK");
+        due.sentence("A row of PLACES is one byte, of WIDE PLACES a number of two bytes: the place of the first byte of a "
+            + "CHUNK", "two bytes");
         for (int place : new int[] {4, 255, 256, 257, 511, 512, 900, 901}) {
             MovieBoxes x = withMuchData(Tables.plain().with(Build.WIDE, 1, place / 256, place % 256));
             due.is("the place " + place, x.sample(0, 0, 0), place);
@@ -156,7 +159,8 @@ public final class SentencesTablesTest {
     }
 
     private static void chunkRows() {
-        due.sentence("each chunk from number first on, up to the chunk before the first of the next row (or the last chunk of all), "
+        due.sentence("A row of CHUNKS is three bytes, first, many, description: each chunk from number first on, up to the "
+            + "chunk before the first of the next row (or the last chunk of all), "
             + "has so many samples with that description");
         Tables tables = Tables.bare(8, 1).with(Build.SIZES, 1, 8).with(Build.PLACES, 5, 2, 2, 2, 2, 2);
         valuesAre(tables.with(Build.CHUNKS, 2, 1, 1, 0, 3, 2, 255).file(), 5, 0, 0, 255, 255, 255, 255, 255, 255);
@@ -191,6 +195,9 @@ public final class SentencesTablesTest {
         valuesAre(Tables.plain().with(Build.SYNCS, 2, 1, 3).file(), 4, 1, 0, 1);
         valuesAre(Tables.plain().with(Build.SYNCS, 3, 1, 2, 3).file(), 4, 1, 1, 1);
         valuesAre(Tables.plain().with(Build.SYNCS, 0).file(), 4, 0, 0, 0);
+        MovieBoxes last = Build.file(Build.box(Build.DATA, Build.counting(8)), Build.box(Build.MOVIE,
+            Tables.plain().with(Build.SYNCS, 1, 1).track(Build.bytes(3, 2, 2))));
+        due.is("the byte behind the table is no row", last.sample(0, 2, 4), 0);
         MovieBoxes x = Tables.bare(255, 1).with(Build.SYNCS, 2, 128, 255).file();
         due.is("the number 255", x.sample(0, 254, 4), 1);
         due.is("the number 254", x.sample(0, 253, 4), 0);

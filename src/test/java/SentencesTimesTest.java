@@ -102,6 +102,10 @@ public final class SentencesTimesTest {
         shownIs(x, 3, NONE);
         shownIs(x, 600, NONE);
         shownIs(x, Integer.MAX_VALUE, NONE);
+        MovieBoxes last = Build.file(Build.box(Build.DATA, Build.counting(8)), Build.box(Build.MOVIE,
+            Tables.plain().with(Build.EDITS, 1, 2, 0).track(Build.bytes(9, 0, 9, 0, 9, 0, 9, 0, 9))));
+        shownIs(last, 1, 0);
+        shownIs(last, 2, NONE);
         shownIs(Tables.plain().with(Build.EDITS, 0).file(), 0, NONE);
         shownIs(Tables.plain().with(Build.EDITS, 1, 0, 0).file(), 0, NONE);
     }
@@ -142,7 +146,7 @@ public final class SentencesTimesTest {
     }
 
     private static void refusedAppendsPokesAndCuts() {
-        due.sentence("A call that is refused changes nothing.");
+        due.sentence("A call that is refused changes nothing.", "append, poke and cut");
         MovieBoxes x = Tables.plain().file();
         int[] before = bytesOf(x);
         int[] noNumber = {0, 9, -1, 1000, Integer.MIN_VALUE, Integer.MAX_VALUE};
@@ -174,7 +178,7 @@ public final class SentencesTimesTest {
     }
 
     private static void refusedQuestions() {
-        due.sentence("A call that is refused changes nothing: questions");
+        due.sentence("A call that is refused changes nothing.", "questions");
         MovieBoxes x = Tables.plain().file();
         int[] before = bytesOf(x);
         int[] wrong = {-1, 20, 255, 1000, Integer.MIN_VALUE, Integer.MAX_VALUE};
@@ -193,7 +197,7 @@ public final class SentencesTimesTest {
     }
 
     private static void refusedFastStarts() {
-        due.sentence("A call that is refused changes nothing: fastStart");
+        due.sentence("A call that is refused changes nothing.", "fastStart");
         int[] movie = Tables.plain().movie();
         int[] media = Build.box(Build.DATA, Build.counting(8));
         int[][] files = {Build.join(media, movie, Build.bytes(2)), Build.join(media, movie, Build.empties(14)),
